@@ -116,5 +116,17 @@ public final class AllTest {
         x.ceiling(2, 0);
         CHECK.due("18: no BEST", x.best(true, 0), AimDesk.NONE);
         CHECK.due("18: without BEST", x.digest(), digestByCalls(x, "1~ "));
+        digestOfUnlikePlans();
+    }
+
+    private static void digestOfUnlikePlans() {
+        AimDesk x = Check.desk("3;9,3;8,2");
+        x.aim(0, 0);
+        x.stuck(0, true);
+        x.shade(1);
+        x.ceiling(0, 9);
+        CHECK.due("18: caught", x.best(false, 0), 12);
+        CHECK.due("18: caught, steady", x.best(true, 0), 10);
+        CHECK.due("18: not steady, then steady", x.digest(), digestByCalls(x, ""));
     }
 }

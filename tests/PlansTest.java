@@ -108,7 +108,9 @@ public final class PlansTest {
         ceilings(x, 8, 1, 2);
         CHECK.due("12: bound by ceilings", x.best(false, 0) + x.best(false, 1), 11);
         ceilings(x, 60, 60, 60);
+        CHECK.due("12: caught again", x.best(false, 0), 19);
         x.shade(1);
+        CHECK.due("12: caught without shaded ones", x.best(false, 0), 4);
         CHECK.due("12: bound without shaded ones", x.best(false, 0) + x.best(false, 1), 4);
         CHECK.due("12: bound, steady, without shaded ones", x.best(true, 0) + x.best(true, 1), 4);
         x.shade(0);
@@ -151,6 +153,10 @@ public final class PlansTest {
         CHECK.due("13: which is 5", y.best(false, 0), 5);
         AimDesk five = Check.desk("4;1,1;1,1;1,1;1,1;1,1");
         dueChange("13: five moves", five, false, 2, 10, 18, 26, 34);
+        AimDesk away = Check.desk("2;5,0;5,1");
+        aims(away, 0, -1);
+        ceilings(away, 0, 0);
+        dueChange("13: one turns away, none aims then", away, false, 0);
     }
 
     private static void changeWithWayAround() {
@@ -308,5 +314,19 @@ public final class PlansTest {
         x.shade(1);
         CHECK.due("16: a stuck one under a cloud", x.relief(), 4);
         CHECK.due("16: aims stay", x.patch(0, 3), 3);
+        reliefOfFive();
+    }
+
+    private static void reliefOfFive() {
+        AimDesk x = Check.desk("1;5,0;4,0;3,0;2,0;1,0");
+        aims(x, 0, 0, 0, 0, 0);
+        x.ceiling(0, 0);
+        CHECK.due("16: all five", x.relief(), 31);
+        x.ceiling(0, 1);
+        CHECK.due("16: four of five", x.relief(), 15);
+        x.ceiling(0, 14);
+        CHECK.due("16: the last one", x.relief(), 16);
+        x.stuck(4, true);
+        CHECK.due("16: the last one stuck", x.relief(), 8);
     }
 }

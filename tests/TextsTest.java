@@ -107,6 +107,7 @@ public final class TextsTest {
         CHECK.due("5: the old one stays", x.mirror(0, 4), 1);
         CHECK.due("5: with its aims", x.mirror(0, 2), 1);
         x.blank();
+        CHECK.due("5: best of the old one", x.best(false, 0), AimDesk.NONE);
         Check.write(x, "2;4,1;3,3;2,2");
         CHECK.due("5: another one", x.field(), 3);
         CHECK.due("5: its patches", x.count(1), 2);
