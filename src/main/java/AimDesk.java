@@ -269,8 +269,18 @@ public final class AimDesk {
     public long digest() {
         long h = digestOfParts(1733);
         if (plant.isRead()) {
-            h = digestOfPlan(h, false);
-            h = digestOfPlan(h, true);
+            for (int kind = 0; kind <= 1; kind++) {
+                boolean steady = kind == 1;
+                h = 31 * h + best(steady, 0);
+                h = 31 * h + best(steady, 1);
+                for (int what = 10; what <= 14; what++) {
+                    h = 31 * h + best(steady, what);
+                }
+                h = 31 * h + change(steady, 0);
+                for (int what = 10; what <= 12; what++) {
+                    h = 31 * h + change(steady, what);
+                }
+            }
             for (int what = 0; what <= 2; what++) {
                 h = 31 * h + trade(what);
             }
@@ -300,20 +310,6 @@ public final class AimDesk {
         return h;
     }
 
-    private long digestOfPlan(long start, boolean steady) {
-        long h = start;
-        h = 31 * h + best(steady, 0);
-        h = 31 * h + best(steady, 1);
-        for (int what = 10; what <= 14; what++) {
-            h = 31 * h + best(steady, what);
-        }
-        h = 31 * h + change(steady, 0);
-        for (int what = 10; what <= 12; what++) {
-            h = 31 * h + change(steady, what);
-        }
-        return h;
-    }
-
     private static int bit(int bits, int number) {
         return bits >> number & 1;
     }
@@ -338,10 +334,6 @@ public final class AimDesk {
             rest /= AIMS;
         }
         return rest % AIMS - 1;
-    }
-
-    private static int placeBy(int place, int mirror, int aim) {
-        return place + (aim - aimIn(place, mirror)) * STEPS[mirror];
     }
 
     /** THE PAGE. */
@@ -718,8 +710,9 @@ public final class AimDesk {
         /** Needs not look for stuck mirrors: a place with another aim of theirs was never opened. */
         private boolean markBeside(Plant plant, int place, int far) {
             boolean marked = false;
+            int rest = place;
             for (int mirror = 0; mirror < plant.mirrors; mirror++) {
-                int beside = placeBy(place, mirror, AWAY);
+                int beside = place - rest % AIMS * STEPS[mirror];
                 for (int aim = AWAY; aim < plant.patches; aim++) {
                     if (ways[beside] == OPEN) {
                         ways[beside] = far;
@@ -727,6 +720,7 @@ public final class AimDesk {
                     }
                     beside += STEPS[mirror];
                 }
+                rest /= AIMS;
             }
             return marked;
         }
@@ -736,22 +730,26 @@ public final class AimDesk {
             int told = Math.min(plan.moves, MOST_MOVES_TOLD);
             for (int number = 0; number < told; number++) {
                 int move = leastMove(plant, place, plan.moves - number - 1);
+                int mirror = move >> 3;
                 plan.firstMoves[number] = move;
-                if (!plant.hasMirror(move >> 3)) {
-                    return;
+                if (plant.hasMirror(mirror)) {
+                    place += ((move & 7) - 1 - aimIn(place, mirror)) * STEPS[mirror];
                 }
-                place = placeBy(place, move >> 3, (move & 7) - 1);
             }
         }
 
         /** The least move from a place to one that is so far from BEST: 8 times the mirror, the aim and 1. */
         private int leastMove(Plant plant, int place, int far) {
+            int rest = place;
             for (int mirror = 0; mirror < plant.mirrors; mirror++) {
+                int beside = place - rest % AIMS * STEPS[mirror];
                 for (int aim = AWAY; aim < plant.patches; aim++) {
-                    if (ways[placeBy(place, mirror, aim)] == far) {
+                    if (ways[beside] == far) {
                         return 8 * mirror + aim + 1;
                     }
+                    beside += STEPS[mirror];
                 }
+                rest /= AIMS;
             }
             return NONE;
         }
