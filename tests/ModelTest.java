@@ -15,14 +15,16 @@ public final class ModelTest {
     private ModelTest(long seed) {
         random = new Random(seed);
         run = "run " + seed + ": ";
-        mostPatches = 1 + random.nextInt(4);
-        mostMirrors = 1 + random.nextInt(5);
+        // Half of the runs with the largest fields: most ways of going wrong are there.
+        boolean large = random.nextBoolean();
+        mostPatches = large ? 4 : 1 + random.nextInt(4);
+        mostMirrors = large ? 5 : 1 + random.nextInt(5);
     }
 
     /** With two numbers: the first seed and how many. */
     public static void main(String[] args) {
         int first = args.length == 2 ? Integer.parseInt(args[0]) : 1;
-        int runs = args.length == 2 ? Integer.parseInt(args[1]) : 120;
+        int runs = args.length == 2 ? Integer.parseInt(args[1]) : 300;
         for (int seed = first; seed < first + runs; seed++) {
             new ModelTest(seed).run();
         }
@@ -63,7 +65,7 @@ public final class ModelTest {
 
     private void readField() {
         CHECK.due(run + "blank()", desk.blank(), model.blank());
-        StringBuilder text = new StringBuilder().append(Math.min(4, mostPatches));
+        StringBuilder text = new StringBuilder().append(mostPatches);
         int mirrors = Math.max(1, mostMirrors - random.nextInt(2));
         int mostMiddle = 1 + random.nextInt(9);
         int mostSide = random.nextInt(10);
