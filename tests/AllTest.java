@@ -110,7 +110,6 @@ public final class AllTest {
         x.shade(0);
         x.ceiling(1, 1);
         CHECK.due("18: too hot", x.digest(), digestByCalls(x, "1~ "));
-        CHECK.due("18: it changes nothing", x.digest(), digestByCalls(x, "1~ "));
         x.stuck(2, false);
         x.stuck(1, true);
         x.ceiling(2, 0);

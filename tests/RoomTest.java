@@ -41,7 +41,7 @@ public final class RoomTest {
             answers += desk.letter(text.charAt(i));
         }
         answers += desk.fault() + desk.field();
-        for (int i = 0; i < 48; i++) {
+        for (int i = 0; i < 46; i++) {
             answers += desk.aim(i % 5, i % 4) + desk.ceiling(i % 4, 15 + i % 7);
             answers += desk.shade(i % 32) + desk.stuck(i % 5, i % 3 == 0);
             answers += desk.best(false, 0) + desk.change(true, 10) + desk.go(false);
