@@ -15,7 +15,8 @@ import java.util.Map;
 public final class GuardsTest {
     private static final Check CHECK = new Check();
     private static final int[] WILD = {Integer.MIN_VALUE, -3126, -1, 0, 1, 4, 5, 21, 3124, 3125, Integer.MAX_VALUE};
-    private static final String[] FIELDS = {"1;1,0", "4;9,9;9,9;9,9;9,9;9,9", "3;9,3;8,2;7,4", ""};
+    private static final String FULL_PAGE = "4;9,9;9,9;9,9;9,9;9,9";
+    private static final String[] FIELDS = {"1;1,0", FULL_PAGE, "3;9,3;8,2;7,4", ""};
 
     public static void main(String[] args) throws ReflectiveOperationException {
         int methods = 0;
@@ -47,7 +48,8 @@ public final class GuardsTest {
     }
 
     private static void callWildly(Method method, String field, int turned, int number) throws ReflectiveOperationException {
-        Map<Class<?>, Object> parts = partsOf(field.isEmpty() ? new AimDesk() : Check.desk(field));
+        AimDesk desk = field.isEmpty() ? new AimDesk() : Check.write(Check.desk(field), FULL_PAGE);
+        Map<Class<?>, Object> parts = partsOf(desk);
         Class<?>[] types = method.getParameterTypes();
         Object[] arguments = new Object[types.length];
         for (int i = 0; i < types.length; i++) {

@@ -426,6 +426,7 @@ public final class AimDesk {
 
         /** Takes a page that is a field. */
         private void read(Page page) {
+            // Every loop over mirrors or patches rests on this: never more than the rows hold.
             patches = Math.min(page.figureAt(0), MOST_PATCHES);
             mirrors = Math.min(page.length / 4, MOST_MIRRORS);
             places = 1;
