@@ -43,6 +43,14 @@ final class BestEdges extends EdgeCases {
         dueBest("ceiling 8, under the cloud", x, false, 4, 0, 0, 0);
     }
 
+    @Edge(of = "Terms", words = "BEST: of all AIMS that are SAFE (steady: STEADY)")
+    static void allAtTheLastPatch() {
+        AimDesk x = desk("4;1,0;1,0;1,0;1,0;1,0");
+        ceilings(x, 0, 0, 0, 5);
+        dueBest("only the last one bears anything", x, false, 5, 0, 3, 3, 3, 3, 3);
+        dueBest("only the last one bears anything", x, true, 5, 0, 3, 3, 3, 3, 3);
+    }
+
     @Edge(of = "Terms", words = "and have STUCK MIRRORS as they are")
     static void allStuck() {
         AimDesk x = desk("2;5,1;4,2;3,3;2,4;1,5");

@@ -70,6 +70,17 @@ final class ChangeEdges extends EdgeCases {
     private static final String FEWEST = "CHANGE: the fewest MOVES from the AIMS as they are to BEST";
 
     @Edge(of = "Terms", words = FEWEST)
+    static void allToTheLastPatchAndBack() {
+        AimDesk x = desk("4;1,0;1,0;1,0;1,0;1,0");
+        ceilings(x, 0, 0, 0, 5);
+        dueChange("all away", x, false, 4, 12, 20, 28, 36);
+        aims(x, 3, 3, 3, 3, 3);
+        dueChange("all there", x, false);
+        x.ceiling(0, 5);
+        dueChange("the first one bears as much", x, false, 1, 9, 17, 25, 33);
+    }
+
+    @Edge(of = "Terms", words = FEWEST)
     static void noMovesIfBestIsThere() {
         AimDesk x = desk("1;5,0");
         x.aim(0, 0);
